@@ -11,6 +11,9 @@ public final class ModelTest {
         for (int run = 0; run < 60; run++) {
             comparePlans(run, new Random(7000 + run));
         }
+        for (int run = 0; run < 2000; run++) {
+            comparePinned(run, new Random(20000 + run));
+        }
         for (int run = 0; run < 200; run++) {
             compareWild(run, new Random(9000 + run));
         }
@@ -68,6 +71,36 @@ public final class ModelTest {
             both("plan run " + run, new Call(9, random.nextInt(works), random.nextInt(2), 0), x, model);
             both("plan run " + run, new Call(5, random.nextInt(20), random.nextInt(works), 0), x, model);
             both("plan run " + run, new Call(10, random.nextInt(works), 0, 0), x, model);
+        }
+    }
+
+    /** Three WORKS can go to one HOME each, so that the fourth one has to pass over up to three of its best. */
+    private static void comparePinned(int run, Random random) {
+        PicturesLent x = new PicturesLent();
+        SlowModel model = new SlowModel();
+        String name = "pinned run " + run;
+        for (int a = 0; a < 4; a++) {
+            for (int b = 0; b < a; b++) {
+                both(name, new Call(0, a, b, random.nextInt(5)), x, model);
+            }
+        }
+        int homes = 4 + random.nextInt(6);
+        for (int i = 0; i < homes; i++) {
+            both(name, new Call(1, random.nextInt(4), 100, 0), x, model);
+        }
+        int free = random.nextInt(4);
+        for (int work = 0; work < 4; work++) {
+            both(name, new Call(2, 0, 20, random.nextInt(4)), x, model);
+            if (work != free) {
+                both(name, new Call(5, random.nextInt(homes), work, 0), x, model);
+            }
+        }
+        for (int i = 0; i < 3 * homes; i++) {
+            both(name, new Call(5, random.nextInt(homes), free, 0), x, model);
+        }
+        both(name, new Call(17, 0, 0, 0), x, model);
+        for (int work = 0; work < 4; work++) {
+            both(name, new Call(16, work, 0, 0), x, model);
         }
     }
 

@@ -10,6 +10,7 @@ public final class PromisesTest {
         promise4();
         promise5();
         promise5InForce();
+        promise5Without();
         promise6();
         promise7();
         promise7Most();
@@ -175,7 +176,23 @@ public final class PromisesTest {
         y.wish(0, 0);
         y.go(30);
         y.rule(0, 90, 0);
-        Due.is("5: day 0 is before the rule at first", 0, y.rank(0));
+        Due.is("5: a rule of day 0 is ahead of what goes without one", 0, y.rank(0));
+    }
+
+    private static void promise5Without() {
+        PicturesLent x = new PicturesLent();
+        x.home(0, 1000);
+        x.work(0, 4000, 0);
+        lend(x, 0, 0);
+        x.go(90);
+        Due.is("5: without a rule TERM is 90", 0, x.told(0, 4));
+        x.go(1);
+        Due.is("5: without a rule TERM is 90", 1, x.told(0, 4));
+        Due.is("5: without a rule RATE is 10", 4 * 40, x.back(0));
+        Due.is("5: without a rule PART is 0", 0, x.artist(0));
+        x.wish(0, 0);
+        x.go(60);
+        Due.is("5: without a rule REST is 0", 60, x.rank(1));
     }
 
     private static void promise6() {
@@ -512,15 +529,18 @@ public final class PromisesTest {
         Due.no("14: in a store", x.lose(0));
         Due.no("14: no such work", x.lose(1));
         Due.no("14: work -1", x.lose(-1));
-        lend(x, 0, 0);
         x.wish(1, 0);
+        x.wish(0, 0);
+        x.offer(0, false);
+        x.offer(0, true);
         x.go(31);
         Due.yes("14: lose(0)", x.lose(0));
         Due.is("14: rent and worth are owed", 16 + 400, x.homed(0, 2));
         Due.is("14: the artist's part", 8, x.artist(3));
         Due.is("14: lost", 3, x.told(0, 0));
         Due.is("14: by home", 0, x.told(0, 1));
-        Due.is("14: open wishes go", 2, x.wished(1, 0));
+        Due.is("14: open wishes go", 2, x.wished(0, 0));
+        Due.is("14: the served one stays", 1, x.wished(1, 0));
         Due.is("14: no sale", 0, x.count(7));
         Due.is("14: rents of all", 16, x.count(6));
         Due.is("14: none lent", 0, x.homed(0, 3));
@@ -540,7 +560,8 @@ public final class PromisesTest {
         Due.is("15: n -1", -1, x.pay(0, -1));
         Due.is("15: n MIN", -1, x.pay(0, MIN));
         Due.is("15: one too many", -1, x.pay(0, 405));
-        Due.is("15: a part", 400, x.pay(0, 4));
+        Due.is("15: a part", 401, x.pay(0, 3));
+        Due.is("15: one coin", 400, x.pay(0, 1));
         Due.is("15: another home owes nothing", -1, x.pay(1, 4));
         Due.is("15: all", 0, x.pay(0, 400));
         Due.is("15: rents ever stay", 4, x.homed(0, 4));
@@ -653,6 +674,9 @@ public final class PromisesTest {
         x.unwish(0);
         Due.is("18: one home for two works: the first number", 1, x.planned(0));
         Due.is("18: one home for two works: none", -1, x.planned(1));
+        x.far(0, 1, 31);
+        Due.is("18: the same at other miles", -1, x.planned(1));
+        x.far(0, 1, 30);
         Due.is("19: one of two", 30, x.miles());
         x.offer(1, true);
         Due.is("18: lent", -1, x.planned(1));
