@@ -1,3 +1,4 @@
+import java.util.List;
 import java.util.Random;
 
 /** The calls of the face by number, and random ones of them. */
@@ -15,9 +16,44 @@ record Call(int method, int a, int b, int c) {
         99999, 100000, 9999999, 10000000, Integer.MAX_VALUE - 1, Integer.MAX_VALUE
     };
 
+    private static final int[] ARGUMENTS = {
+        3, 2, 3, 3, 1, 2, 1, 1, 1, 2, 1, 1, 1, 2, 2, 2, 1, 0, 2, 2, 2, 1, 1
+    };
+
     @Override
     public String toString() {
-        return NAMES[method] + "(" + a + ", " + b + ", " + c + ")";
+        int[] all = {a, b, c};
+        StringBuilder text = new StringBuilder(NAMES[method]).append('(');
+        for (int i = 0; i < ARGUMENTS[method]; i++) {
+            text.append(i == 0 ? "" : ", ").append(all[i]);
+        }
+        return text.append(')').toString();
+    }
+
+    /** A call that is written as its name and its arguments with blanks between, as in "offer 3 taken". */
+    static Call of(String text) {
+        String[] words = text.trim().split(" +");
+        int method = List.of(NAMES).indexOf(words[0]);
+        if (method < 0 || words.length - 1 != ARGUMENTS[method]) {
+            throw new IllegalArgumentException("no such call: " + text);
+        }
+        int[] all = new int[3];
+        for (int i = 1; i < words.length; i++) {
+            all[i - 1] = number(words[i]);
+        }
+        return new Call(method, all[0], all[1], all[2]);
+    }
+
+    static int number(String word) {
+        return switch (word) {
+            case "NONE" -> -1;
+            case "DOUBT" -> -2;
+            case "MIN" -> Integer.MIN_VALUE;
+            case "MAX" -> Integer.MAX_VALUE;
+            case "taken", "true" -> 1;
+            case "refused", "false" -> 0;
+            default -> Integer.parseInt(word);
+        };
     }
 
     /** Whether the answer tells that the call was refused, for those calls that change something. */
